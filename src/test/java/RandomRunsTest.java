@@ -5,7 +5,7 @@ import java.util.Random;
 
 /** Random runs of calls, each answer held against the Model's. The seeds are fixed. */
 public final class RandomRunsTest {
-    private static final int RUNS = 1500;
+    private static final int RUNS = 400;
     private static final int CALLS_MOST = 512;
     private static final int[] WILD = {
         Integer.MIN_VALUE, Integer.MIN_VALUE + 1, -1000000, -201, -200, -11, -3, -2, -1, 0, 1, 2, 3, 4, 5, 6, 7,
