@@ -562,8 +562,7 @@ public final class SkyLights {
 
         private int readDigits(boolean below) {
             int value = 0;
-            // One more than a number has: the last one is always too great.
-            for (int many = 0; many <= DIGITS_MOST; many++) {
+            for (int many = 0; many < DIGITS_MOST; many++) {
                 int digit = digitOf(byteHere());
                 if (faulty || digit == NO_DIGIT) {
                     faulty = faulty || many == 0;
@@ -833,8 +832,9 @@ public final class SkyLights {
 
         // By pair, a bit for each lag: whether the two meet with it.
         private final Row meetings = new Row(POINTS_MOST * POINTS_MOST);
-        private final Row tried = new Row(POINTS_MOST);
-        private final Row least = new Row(POINTS_MOST);
+        // Outside of a row all are 0: the points behind the free ones have no delay.
+        private final Row tried = new Row(FREE_MOST);
+        private final Row least = new Row(FREE_MOST);
         private int size = 0;
         private int free = 0;
         private int leastSum = 0;
@@ -844,8 +844,6 @@ public final class SkyLights {
             size = pass.size();
             free = Math.min(size, FREE_MOST);
             leastSum = ABOVE_ALL_SUMS;
-            tried.fill(0);
-            least.fill(0);
             noteMeetings(pass, gap);
             if (doOthersFit()) {
                 search(this, 0, 0);

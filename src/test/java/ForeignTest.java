@@ -101,6 +101,12 @@ public final class ForeignTest {
         lights.mark(9, 0, 0, 0, 9);
         due.is("tick 0", lights.first(), 0);
         lights = new SkyLights();
+        lights.mark(0, 20, 7, 7, 190);
+        lights.mark(1, 20, 7, 7, 200);
+        due.is("10 higher", lights.first(), -1);
+        lights.gap(11);
+        due.is("10 higher, gap 11", lights.first(), 20);
+        lights = new SkyLights();
         lights.mark(8, 999, 0, 0, 100);
         lights.mark(9, 999, 0, 9, 100);
         due.is("tick 999", lights.first(), 999);
@@ -133,6 +139,32 @@ public final class ForeignTest {
         due.is("on the way to the next tick", lights.first(), 3);
         lights.gap(9);
         due.is("just 9", lights.first(), -1);
+        // The one goes up, the other down: they part, or come from afar.
+        lights = new SkyLights();
+        lights.mark(0, 3, 0, 0, 100);
+        lights.mark(1, 3, 0, 0, 110);
+        lights.mark(0, 4, 0, 0, 0);
+        lights.mark(1, 4, 0, 0, 200);
+        due.is("they part", lights.first(), -1);
+        lights.mark(0, 5, 0, 0, 90);
+        lights.mark(1, 5, 0, 0, 100);
+        due.is("they come to 10", lights.first(), -1);
+        lights.mark(0, 6, 0, 0, 100);
+        lights.mark(1, 6, 0, 0, 90);
+        due.is("they change heights", lights.first(), 5);
+        lights = new SkyLights();
+        lights.mark(0, 3, 0, 0, 100);
+        lights.mark(1, 3, 0, 0, 109);
+        lights.mark(0, 4, 0, 0, 0);
+        lights.mark(1, 4, 0, 0, 200);
+        due.is("they part from 9", lights.first(), 3);
+        lights = new SkyLights();
+        lights.gap(3);
+        lights.mark(0, 3, 0, 0, 0);
+        lights.mark(1, 3, 1, 2, 2);
+        lights.mark(0, 4, 0, 0, 0);
+        lights.mark(1, 4, 0, 2, 2);
+        due.is("just 3 at first, nearer then", lights.first(), 3);
         // They go as one, 10 apart: a step of none.
         lights = new SkyLights();
         lights.mark(0, 3, 0, 0, 0);
@@ -207,6 +239,11 @@ public final class ForeignTest {
         due.is("the zone", lights.who(1), -1);
         lights.zone(0, 100, 1);
         due.is("at the last mark", lights.first(), 6);
+        lights.mark(6, 7, 0, 20, 90);
+        lights.zone(10, 50, 10);
+        due.is("just 10 from the way across", lights.first(), -1);
+        lights.zone(10, 50, 11);
+        due.is("the way across", lights.first(), 6);
         lights.zone(50, 50, 20);
         due.is("between 4 and 6 it is not there", lights.first(), -1);
         lights.zone(-10, 0, 11);
@@ -304,6 +341,9 @@ public final class ForeignTest {
         due.is("and of 1", lights.mark(1, 1, 0, 0, 0), 2);
         due.is("not at one tick", lights.first(), -1);
         due.is("two", lights.wipe(), 2);
+        lights.mark(3, 0, 0, 0, 0);
+        lights.mark(4, 1, 0, 0, 0);
+        due.is("those that are gone are not there", lights.first(), -1);
     }
 
     private static void counts() {

@@ -234,6 +234,14 @@ public final class PassTest {
         due.is("near at the end, late", lights.clash(0, 1), 1);
         lights.gap(5);
         due.is("not with gap 5", lights.clash(0, 1), 0);
+        lights = passOf("0,0,50:0;5,0,50:0", "0,0,0:0;5,0,100:0", 10);
+        due.is("far at the end by height", lights.clash(0, 1), 1);
+        lights.gap(5);
+        due.is("5 far at the begin", lights.clash(0, 1), 0);
+        lights = passOf("0,0,0:0;0,0,100:0", "0,0,50:0;0,0,59:0", 10);
+        due.is("near at the end by height", lights.clash(0, 1), 1);
+        lights.gap(9);
+        due.is("9 far at the end", lights.clash(0, 1), 0);
         lights = passOf("0,0,0:0;0,0,9:0", "0,0,0:0;0,0,9:0", 10);
         due.is("both stand", lights.clash(0, 1), 1);
         lights.gap(9);
@@ -365,6 +373,12 @@ public final class PassTest {
         for (int i = 0; i < delays.length; i++) {
             due.is("delay " + i, lights.delay(i, 0), delays[i]);
         }
+        // Point 0 crosses both others: better that one waits than that two do.
+        lights = passOf("-50,0,50:0;0,-50,50:0;-20,-30,50:0" + FAR, "50,0,50:0;0,50,50:0;-20,70,50:0" + FAR_OFF, 10);
+        due.is("the first one waits", lights.part(), 2);
+        due.is("delay 0", lights.delay(0, 0), 2);
+        due.is("delay 1", lights.delay(1, 0), 0);
+        due.is("delay 2", lights.delay(2, 0), 0);
         // Three through one middle, 10 a tick each: lags of 1 from one to the next.
         lights = passOf("-50,0,50:0;0,-50,50:0;0,0,0:0" + FAR, "50,0,50:0;0,50,50:0;0,0,100:0" + FAR_OFF, 10);
         lights.gap(7);

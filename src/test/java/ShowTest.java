@@ -309,6 +309,13 @@ public final class ShowTest {
         for (int[] n : none) {
             due.is("fails(" + n[0] + ", " + n[1] + ", " + n[2] + ")", lights.fails(n[0], n[1], n[2]), -1);
         }
+        Tapes.figure(lights, "0,0,0:2;50,0,0:3;100,0,0:2;150,0,0:7");
+        lights.cut();
+        lights.scene(1, 5, 5, 5);
+        int[] others = {-2, 0, -2, 0};
+        for (int flyer = 0; flyer < 4; flyer++) {
+            due.is("flyer 0 helps " + flyer, lights.fails(flyer, 0, 1), others[flyer]);
+        }
         lights = team(new int[] {0, 0, 0});
         Tapes.figure(lights, "0,0,0:9");
         lights.scene(0, 5, 5, 5);
