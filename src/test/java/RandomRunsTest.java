@@ -54,7 +54,7 @@ public final class RandomRunsTest {
         if (random.nextInt(10) > 0) {
             for (int i = 0; i < team; i++) {
                 int[] pad = apart(pads, false);
-                call(0, pad[0], pad[1], random.nextInt(2000));
+                call("flyer", pad[0], pad[1], random.nextInt(2000));
             }
         }
         int figures = random.nextInt(9);
@@ -62,12 +62,12 @@ public final class RandomRunsTest {
             tellFigure(random.nextInt(4) > 0 ? team : 1 + random.nextInt(10));
         }
         if (random.nextInt(6) > 0) {
-            call(6, random.nextInt(2) == 0 ? random.nextInt(5) : Math.min(100, room + random.nextInt(3) - 1));
+            call("gap", random.nextInt(2) == 0 ? random.nextInt(5) : Math.min(100, room + random.nextInt(3) - 1));
         }
         int marks = random.nextInt(3) == 0 ? random.nextInt(230) : 0;
         int pace = 1 + random.nextInt(3);
         for (int i = 0; i < marks; i++) {
-            call(27, random.nextInt(10), pace * i / 8 + random.nextInt(2), across(), across(), up());
+            call("mark", random.nextInt(10), pace * i / 8 + random.nextInt(2), across(), across(), up());
         }
         while (left > 0) {
             any();
@@ -77,36 +77,39 @@ public final class RandomRunsTest {
     private void any() {
         int what = random.nextInt(36);
         switch (what) {
-            case 0 -> call(0, wild(across()), wild(across()), wild(random.nextInt(3000)));
+            case 0 -> call("flyer", wild(across()), wild(across()), wild(random.nextInt(3000)));
             case 1 -> tellFigure(random.nextInt(3) > 0 ? team : 1 + random.nextInt(10));
-            case 2 -> call(2);
-            case 3 -> call(5, wild(figure()), wild(random.nextInt(12) - 1), wild(random.nextInt(4)));
-            case 4 -> call(4, wild(figure()));
-            case 6 -> call(6, wild(random.nextInt(2 + room)));
-            case 31 -> call(14);
-            case 7 -> call(7, wild(across()), wild(across()), wild(random.nextInt(4) * random.nextInt(20)));
-            case 8, 5, 32 -> call(8, wild(fitting()), wild(fitting()), wild(1 + random.nextInt(ticks)));
-            case 9 -> call(9, wild(random.nextInt(10)));
-            case 10, 33 -> call(10, wild(random.nextInt(team)), wild(random.nextInt(10)));
-            case 11 -> call(11, wild(random.nextInt(team)), wild(random.nextInt(team)));
-            case 12 -> call(12, wild(random.nextInt(team)));
-            case 15, 34, 35 -> call(15, wild(fitting()), wild(1 + random.nextInt(30)), wild(random.nextInt(101)),
+            case 2 -> call("figure");
+            case 3 -> call("point", wild(figure()), wild(random.nextInt(12) - 1), wild(random.nextInt(4)));
+            case 4 -> call("spread", wild(figure()));
+            case 6 -> call("gap", wild(random.nextInt(2 + room)));
+            case 14, 31 -> call("part");
+            case 13 -> call("clean");
+            case 18 -> call("length");
+            case 20 -> call("last");
+            case 7 -> call("zone", wild(across()), wild(across()), wild(random.nextInt(4) * random.nextInt(20)));
+            case 8, 5, 32 -> call("pass", wild(fitting()), wild(fitting()), wild(1 + random.nextInt(ticks)));
+            case 9 -> call("goes", wild(random.nextInt(10)));
+            case 10, 33 -> call("delay", wild(random.nextInt(team)), wild(random.nextInt(10)));
+            case 11 -> call("clash", wild(random.nextInt(team)), wild(random.nextInt(team)));
+            case 12 -> call("enters", wild(random.nextInt(team)));
+            case 15, 34, 35 -> call("scene", wild(fitting()), wild(1 + random.nextInt(30)), wild(random.nextInt(101)),
                     wild(random.nextInt(256)));
-            case 16 -> call(16, wild(random.nextInt(team)), wild(random.nextInt(1 + model.count(2))));
-            case 17 -> call(17, wild(random.nextInt(team)));
-            case 19 -> call(19, wild(random.nextInt(team)));
-            case 21 -> call(21, wild(random.nextInt(500)));
-            case 22 -> call(22, wild(random.nextInt(1 + Math.max(0, model.length()))));
-            case 24 -> call(24, wild(random.nextInt(team)), wild(random.nextInt(1 + model.count(2))),
+            case 16 -> call("stands", wild(random.nextInt(team)), wild(random.nextInt(1 + model.count(2))));
+            case 17 -> call("lands", wild(random.nextInt(team)));
+            case 19 -> call("left", wild(random.nextInt(team)));
+            case 21 -> call("margin", wild(random.nextInt(500)));
+            case 22 -> call("colour", wild(random.nextInt(1 + Math.max(0, model.length()))));
+            case 24 -> call("fails", wild(random.nextInt(team)), wild(random.nextInt(1 + model.count(2))),
                     wild(random.nextInt(2)));
-            case 25 -> call(random.nextInt(4) == 0 ? 25 : 23);
-            case 23 -> call(random.nextInt(2) == 0 ? 23 : 14);
-            case 27 -> call(27, wild(random.nextInt(10)), wild(random.nextInt(60)), wild(across()),
+            case 25 -> call(random.nextInt(4) == 0 ? "cut" : "unclean");
+            case 23 -> call(random.nextInt(2) == 0 ? "unclean" : "part");
+            case 27 -> call("mark", wild(random.nextInt(10)), wild(random.nextInt(60)), wild(across()),
                     wild(across()), wild(up()));
-            case 29 -> call(29, wild(random.nextInt(2)));
-            case 30 -> call(random.nextInt(12) == 0 ? 30 : 28);
-            case 26 -> call(26, wild(random.nextInt(7)));
-            default -> call(what);
+            case 29 -> call("who", wild(random.nextInt(2)));
+            case 30 -> call(random.nextInt(12) == 0 ? "wipe" : "first");
+            case 26 -> call("count", wild(random.nextInt(7)));
+            default -> call("first");
         }
     }
 
@@ -126,10 +129,10 @@ public final class RandomRunsTest {
         }
         for (int i = 0; i < text.length(); i += 8) {
             String part = text.substring(i, Math.min(text.length(), i + 8));
-            call(1, part.length(), Tapes.word(part));
+            call("feed", Tapes.word(part), part.length());
         }
         if (random.nextInt(20) > 0) {
-            call(2);
+            call("figure");
         }
     }
 
@@ -194,87 +197,13 @@ public final class RandomRunsTest {
         return random.nextInt(25) == 0 ? WILD[random.nextInt(WILD.length)] : tame;
     }
 
-    private void call(int what, long... n) {
+    private void call(String name, long... n) {
         if (left > 0) {
             left--;
-            int[] i = Arrays.stream(n).mapToInt(value -> (int) value).toArray();
-            String told = " " + what + Arrays.toString(n);
-            calls.append(told);
-            long got = ask(what, i, n);
-            long want = askModel(what, i, n);
+            calls.append(' ').append(name).append(Arrays.toString(n));
+            int got = Calls.ask(lights, name, n);
+            int want = Calls.ask(model, name, n);
             due.is(got == want ? "" : calls.toString(), got, want);
         }
-    }
-
-    private int ask(int what, int[] i, long[] n) {
-        return switch (what) {
-            case 0 -> lights.flyer(i[0], i[1], i[2]);
-            case 1 -> lights.feed(n[1], i[0]);
-            case 2 -> lights.figure();
-            case 4 -> lights.spread(i[0]);
-            case 5 -> lights.point(i[0], i[1], i[2]);
-            case 6 -> lights.gap(i[0]);
-            case 7 -> lights.zone(i[0], i[1], i[2]);
-            case 8 -> lights.pass(i[0], i[1], i[2]);
-            case 9 -> lights.goes(i[0]);
-            case 10 -> lights.delay(i[0], i[1]);
-            case 11 -> lights.clash(i[0], i[1]);
-            case 12 -> lights.enters(i[0]);
-            case 13 -> lights.clean();
-            case 14 -> lights.part();
-            case 15 -> lights.scene(i[0], i[1], i[2], i[3]);
-            case 16 -> lights.stands(i[0], i[1]);
-            case 17 -> lights.lands(i[0]);
-            case 18 -> lights.length();
-            case 19 -> lights.left(i[0]);
-            case 20 -> lights.last();
-            case 21 -> lights.margin(i[0]);
-            case 22 -> lights.colour(i[0]);
-            case 23 -> lights.unclean();
-            case 24 -> lights.fails(i[0], i[1], i[2]);
-            case 25 -> lights.cut();
-            case 26 -> lights.count(i[0]);
-            case 27 -> lights.mark(i[0], i[1], i[2], i[3], i[4]);
-            case 28 -> lights.first();
-            case 29 -> lights.who(i[0]);
-            case 30 -> lights.wipe();
-            default -> throw new IllegalStateException("no call " + what);
-        };
-    }
-
-    private int askModel(int what, int[] i, long[] n) {
-        return switch (what) {
-            case 0 -> model.flyer(i[0], i[1], i[2]);
-            case 1 -> model.feed(n[1], i[0]);
-            case 2 -> model.figure();
-            case 4 -> model.spread(i[0]);
-            case 5 -> model.point(i[0], i[1], i[2]);
-            case 6 -> model.gap(i[0]);
-            case 7 -> model.zone(i[0], i[1], i[2]);
-            case 8 -> model.pass(i[0], i[1], i[2]);
-            case 9 -> model.goes(i[0]);
-            case 10 -> model.delay(i[0], i[1]);
-            case 11 -> model.clash(i[0], i[1]);
-            case 12 -> model.enters(i[0]);
-            case 13 -> model.clean();
-            case 14 -> model.part();
-            case 15 -> model.scene(i[0], i[1], i[2], i[3]);
-            case 16 -> model.stands(i[0], i[1]);
-            case 17 -> model.lands(i[0]);
-            case 18 -> model.length();
-            case 19 -> model.left(i[0]);
-            case 20 -> model.last();
-            case 21 -> model.margin(i[0]);
-            case 22 -> model.colour(i[0]);
-            case 23 -> model.unclean();
-            case 24 -> model.fails(i[0], i[1], i[2]);
-            case 25 -> model.cut();
-            case 26 -> model.count(i[0]);
-            case 27 -> model.mark(i[0], i[1], i[2], i[3], i[4]);
-            case 28 -> model.first();
-            case 29 -> model.who(i[0]);
-            case 30 -> model.wipe();
-            default -> throw new IllegalStateException("no call " + what);
-        };
     }
 }
