@@ -137,6 +137,10 @@ public final class ForeignEdgesTest {
                 .is("gap(1)", 10).is("first()", 3);
         marks("on the way, a hair more than 1", "0, 3, 0, 0, 0", "0, 4, 0, 0, 0", "1, 3, -99, 2, 0", "1, 4, 101, 0, 0")
                 .is("gap(1)", 10).is("first()", NONE).is("gap(2)", 1).is("first()", 3);
+        marks("just 5 at both ticks, a hair nearer between", "0, 3, 0, 0, 0", "0, 4, 0, 0, 0", "1, 3, 3, 4, 0", "1, 4, 4, 3, 0")
+                .is("gap(5)", 10).is("first()", 3).is("gap(4)", 5).is("first()", NONE);
+        marks("just 5 at both ticks, as one", "0, 3, 0, 0, 0", "0, 4, 9, 0, 0", "1, 3, 3, 4, 0", "1, 4, 12, 4, 0")
+                .is("gap(5)", 10).is("first()", NONE).is("gap(6)", 5).is("first()", 3);
         marks("through one another", "0, 3, -200, -200, 0", "0, 4, 200, 200, 200", "1, 3, 200, 200, 200", "1, 4, -200, -200, 0")
                 .is("gap(1)", 10).is("first()", 3).is("gap(0)", 1).is("first()", NONE);
     }
@@ -185,6 +189,8 @@ public final class ForeignEdgesTest {
                 .is("zone(0, 0, 11)", 0).is("first()", 3).is("zone(-33, 14, 5)", 0).is("first()", NONE).is("zone(-33, 14, 6)", 0)
                 .is("first()", 3).is("zone(33, 6, 5)", 0).is("first()", NONE).is("zone(33, 6, 6)", 0).is("first()", 3)
                 .is("who(0)", 6).is("who(1)", NONE);
+        marks("just 5 from the zone at both ticks, nearer between", "0, 3, 3, 4, 0", "0, 4, 4, 3, 0").is("zone(0, 0, 5)", 0)
+                .is("first()", 3).is("zone(0, 0, 4)", 0).is("first()", NONE);
         marks("the zone by a hair", "0, 3, -100, 2, 0", "0, 4, 100, 0, 0", "1, 5, -99, 2, 0", "1, 6, 101, 0, 0").is("zone(0, 0, 1)", 0)
                 .is("first()", 3).is("who(0)", 0);
         marks("the zone by a hair, not", "1, 5, -99, 2, 0", "1, 6, 101, 0, 0").is("zone(0, 0, 1)", 0).is("first()", NONE);
@@ -239,6 +245,9 @@ public final class ForeignEdgesTest {
     private static void wipeEdges() {
         run("wipe, no marks").is("wipe()", 0).is("wipe()", 0).is("count(3)", 0).is("mark(0, 0, 0, 0, 0)", 1).is("wipe()", 1)
                 .is("wipe()", 0);
+        marks("wipe, who is gone", "0, 5, 0, 0, 0", "1, 5, 50, 0, 0", "9, 6, 0, 0, 0").is("wipe()", 3)
+                .is("mark(3, 5, 0, 0, 0)", 1).is("mark(4, 6, 0, 0, 0)", 2).is("first()", NONE).is("zone(0, 0, 1)", 0)
+                .is("first()", 5).is("who(0)", 3).is("who(1)", NONE);
         full("wipe, all").is("wipe()", 200).is("count(3)", 0).is("wipe()", 0).is("first()", NONE);
         marks("wipe, ticks begin again", "0, 999, 0, 0, 0", "9, 999, 0, 0, 0").is("wipe()", 2).is("mark(0, 0, 0, 0, 0)", 1)
                 .is("mark(9, 998, 0, 0, 0)", 2).is("first()", NONE).is("mark(9, 999, 0, 0, 0)", 3).is("first()", NONE)

@@ -42,12 +42,14 @@ public final class PassEdgesTest {
         entersAtAnyHeight();
         cleanEdges();
         cleanByTheLast();
+        cleanWithBothLate();
         partWithoutNeed();
         partOfThree();
         partSets();
         partOfTheFirstSix();
         partOfTheNinthNot();
         partStays();
+        partOfFewerThen();
         due.end();
     }
 
@@ -215,6 +217,10 @@ public final class PassEdgesTest {
     }
 
     private static void clashByAHair() {
+        // Just 5 at the begin and at the end, and a hair nearer between.
+        led("just 5 at both ends", 1, "0,0,0:0;3,4,0:0", "0,0,0:0;4,3,0:0").is("gap(5)", 10).is("clash(0, 1)", 1)
+                .is("zone(0, 0, 5)", 0).is("gap(0)", 5).is("enters(1)", 1).is("clash(0, 1)", 0);
+        led("just 5 at the begin, going on", 1, "0,0,0:0;4,3,0:0", "0,0,0:0;4,4,0:0").is("gap(5)", 10).is("clash(0, 1)", 0);
         // 200 / root of 40004 is a hair less than 1, 202 / root of 40004 a hair more.
         led("a hair less", 30, "-50,-50,0:0;-150,-48,0:0", "-50,-50,0:0;50,-50,0:0").is("gap(1)", 10).is("clash(0, 1)", 1);
         led("a hair more", 30, "-50,-50,0:0;-149,-48,0:0", "-50,-50,0:0;51,-50,0:0").is("gap(1)", 10).is("clash(0, 1)", 0)
@@ -329,6 +335,13 @@ public final class PassEdgesTest {
                 .is("gap(9)", 10).is("clean()", 1);
     }
 
+    /** Two in a row, 20 apart, 10 a tick: it is how much later the one sets out than the other that counts. */
+    private static void cleanWithBothLate() {
+        figures("both are late", "0,0,0:0;-20,0,0:0", "100,0,0:0;80,0,0:0").is("pass(0, 1, 10)", 10000).is("goes(0)", 0)
+                .is("delay(0, 9)", 0).is("clean()", 0).is("delay(1, 9)", 0).is("clean()", 1).is("delay(0, 8)", 9).is("clean()", 1)
+                .is("delay(1, 7)", 9).is("clean()", 1).is("delay(1, 6)", 7).is("clean()", 0);
+    }
+
     /** Two cross in the middle, 10 a tick: so many ticks of delay are 7.07 each at the least. */
     private static Run crossing(String name) {
         return led(name, 10, "-50,0,0:0;0,-50,0:0", "50,0,0:0;0,50,0:0");
@@ -390,5 +403,13 @@ public final class PassEdgesTest {
                 .is("delay(1, 1)", 2).is("zone(0, 0, 0)", 0).is("part()", 2);
         figures("near at the begin", "0,0,0:0;9,0,0:0", "0,0,0:0;50,0,0:0").is("pass(0, 1, 5)", 1681).is("delay(1, 9)", 0)
                 .refuses("part()", STATE).is("delay(1, 9)", 9).is("gap(9)", 10).is("part()", 0).is("delay(1, 0)", 0);
+    }
+
+    /** What was found out for a pass of more points is not held against one of fewer. */
+    private static void partOfFewerThen() {
+        String near = "0,0,0:0;50,0,0:0;100,0,0:0;105,0,0:0;150,0,0:0;155,0,0:0;100,50,0:0;105,50,0:0";
+        figures("part of fewer then", near, "0,0,0:0;50,0,0:0", "0,0,0:0;50,0,0:0;100,0,0:0;9,50,0:0").is("pass(0, 0, 5)", 0)
+                .refuses("part()", STATE).is("pass(1, 1, 5)", 0).is("delay(1, 5)", 0).is("part()", 0).is("delay(1, 0)", 0)
+                .is("pass(2, 2, 5)", 0).is("part()", 0);
     }
 }

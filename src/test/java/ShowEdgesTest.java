@@ -45,6 +45,7 @@ public final class ShowEdgesTest {
         failsOfTen();
         cutEdges();
         cutLeavesTheOthers();
+        cutLeavesTheRest();
         due.end();
     }
 
@@ -151,7 +152,7 @@ public final class ShowEdgesTest {
     private static void standsEdges() {
         trio("stands").is("scene(0, 5, 0, 0)", 0).is("stands(0, 0)", 1).is("stands(1, 0)", 2).is("stands(2, 0)", 0)
                 .refusesAll(NONE, "stands(0, 1)", "stands(2, 1)").is("scene(1, 5, 0, 0)", 1).is("stands(0, 1)", 0)
-                .is("stands(1, 1)", 1).is("stands(2, 1)", 2)
+                .is("stands(1, 1)", 1).is("stands(2, 1)", 2).is("stands(0, 0)", 1).is("stands(1, 0)", 2).is("stands(2, 0)", 0)
                 .refusesAll(NONE, "stands(-1, 0)", "stands(3, 0)", "stands(10, 0)", "stands(least, 0)", "stands(most, 0)")
                 .refusesAll(NONE, "stands(0, -1)", "stands(0, 2)", "stands(0, 12)", "stands(0, least)", "stands(0, most)")
                 .is("cut()", 1).refuses("stands(0, 1)", NONE).is("stands(0, 0)", 1).is("cut()", 0).refuses("stands(0, 0)", NONE);
@@ -211,6 +212,13 @@ public final class ShowEdgesTest {
                 .is("left(0)", 5000 - 49).is("scene(3, 7, 0, 0)", 1).is("left(0)", 5000 - 70).is("scene(2, 7, 0, 0)", 2)
                 .is("left(0)", 5000 - 98).is("scene(1, 7, 0, 0)", 3).is("left(0)", 5000 - 119).is("scene(0, 7, 10, 0)", 4)
                 .is("left(0)", 5000 - 160);
+        // Flyers 0 and 2 rise at first, flyer 1 in the last scene, from a point that is not of its number.
+        Run run = run("upward, each by itself").is("flyer(0, 0, 1000)", 0).is("flyer(50, 0, 1000)", 1).is("flyer(100, 0, 1000)", 2);
+        figures(run, "100,0,50:0;50,0,0:0;0,0,50:0", "0,0,50:0;50,0,50:0;100,0,0:0", "50,0,0:0;100,0,50:0;0,0,50:0")
+                .is("scene(0, 10, 0, 0)", 0).is("left(0)", 930).is("left(1)", 940).is("left(2)", 930).is("scene(1, 10, 0, 0)", 1)
+                .is("stands(0, 1)", 0).is("stands(1, 1)", 2).is("stands(2, 1)", 1).is("left(0)", 900).is("left(1)", 910)
+                .is("left(2)", 900).is("scene(2, 10, 0, 0)", 2).is("stands(1, 2)", 1).is("left(0)", 870).is("left(1)", 870)
+                .is("left(2)", 870);
         solo("the least upward", texts).is("scene(1, 1, 0, 0)", 0).is("left(0)", 5000 - 7).is("cut()", 0)
                 .is("scene(2, 30, 0, 0)", 0).is("left(0)", 5000 - 210);
     }
@@ -321,7 +329,12 @@ public final class ShowEdgesTest {
         // Crossing at one time; the delays of a pass of the same figures do not help the show.
         Run run = run("unclean, delays").is("flyer(-50, 0, 0)", 0).is("flyer(0, -50, 0)", 1).is("flyer(100, 100, 0)", 2);
         figures(run, "50,0,0:0;0,50,0:0;200,200,200:0").is("scene(0, 10, 0, 0)", 0).is("pass(-1, 0, 10)", 60000)
-                .is("part()", 2).is("clean()", 1).is("unclean()", 1 + HOME).is("gap(0)", 10).is("unclean()", 0);
+                .is("part()", 2).is("clean()", 1).is("unclean()", 1 + HOME).is("delay(0, 9)", 0).is("delay(1, 9)", 2)
+                .is("clean()", 0).is("gap(0)", 10).is("unclean()", 0);
+        // Nor do they harm it.
+        run = run("unclean, harmful delays").is("flyer(0, 0, 0)", 0).is("flyer(-20, 0, 0)", 1);
+        figures(run, "100,0,0:0;80,0,0:0").is("scene(0, 10, 0, 0)", 0).is("pass(-1, 0, 10)", 10000).is("delay(0, 9)", 0)
+                .is("clean()", 0).is("unclean()", 0).is("gap(21)", 10).is("unclean()", 1 + HOME);
     }
 
     private static void failsOfWhom() {
@@ -380,5 +393,12 @@ public final class ShowEdgesTest {
                 .is("cut()", 1).is("left(0)", 500 - 15 - 2 - 15).is("length()", 11).is("colour(6)", 10).is("colour(11)", 0)
                 .is("lands(2)", 2).is("scene(0, 7, 0, 30)", 1).is("stands(0, 1)", 1).is("stands(2, 1)", 0).is("length()", 20)
                 .is("colour(13)", 30);
+    }
+
+    private static void cutLeavesTheRest() {
+        solo("cut, the rest", "0,0,9:0").is("gap(7)", 10).is("margin(7)", 50).is("zone(7, 7, 7)", 0).is("tape(7)", 1)
+                .is("mark(7, 7, 7, 7, 7)", 1).is("pass(0, -1, 7)", 81).is("delay(0, 7)", 0).is("scene(0, 7, 7, 7)", 0)
+                .is("first()", 7).is("cut()", 0).is("count(0)", 1).is("count(1)", 1).is("count(3)", 1).is("count(4)", 1)
+                .is("count(5)", 7).is("count(6)", 7).is("who(0)", 7).is("first()", 7).is("delay(0, 7)", 7).is("left(0)", 5000);
     }
 }
