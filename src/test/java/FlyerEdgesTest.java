@@ -389,6 +389,8 @@ public final class FlyerEdgesTest {
         run.is("figure(-200,-200,0:0;200,200,200:0)", 3).is("figure(0,0,0:0;100,0,0:0;-100,0,0:0;-100,1,1:0)", 4);
         run.refuses("spread(0)", NONE).is("spread(1)", 0).is("spread(2)", 1).is("spread(3)", 360000).is("spread(4)", 2);
         run.refusesAll(NONE, "spread(-1)", "spread(5)", "spread(8)", "spread(least)", "spread(most)");
+        run("spread without worth").is("figure(0,0,0:9;0,0,1:0)", 0).is("spread(0)", 1).is("point(0, -1, 1)", 0)
+                .is("gap(1)", 10).is("point(0, -1, 1)", 1);
         run("spread without figures").refusesAll(NONE, "spread(0)", "spread(-1)");
         run("spread of the first and the last point").is("figure(0,0,0:0;50,0,0:0;90,0,0:0;0,3,4:0)", 0).is("spread(0)", 25);
     }

@@ -23,6 +23,7 @@ public final class PassEdgesTest {
         passOfOneAndTen();
         passWays();
         passOfSeveral();
+        passWithoutWorth();
         goesEdges();
         delayOfWhom();
         delayNumber();
@@ -35,6 +36,7 @@ public final class PassEdgesTest {
         clashAtTheEnd();
         clashAheadAndBehind();
         clashBetweenTicks();
+        clashAsOneSetsOutOrEnds();
         clashGaps();
         clashOfTheLastOfTen();
         entersOfWhom();
@@ -162,6 +164,13 @@ public final class PassEdgesTest {
                 .is("goes(0)", 0).is("goes(1)", 2).is("goes(2)", 1);
     }
 
+    /** What a point is worth changes neither its ways nor its delays. */
+    private static void passWithoutWorth() {
+        figures("worth", "0,0,0:9;50,0,0:8;100,0,0:7;100,9,0:0", "0,3,0:0;50,3,0:9;100,3,0:0;100,6,0:9").is("pass(0, 1, 5)", 9)
+                .is("spread(0)", 81).is("point(0, -1, 1)", 0).is("delay(0, 0)", 0).is("delay(1, 0)", 0).is("delay(2, 0)", 0)
+                .is("delay(3, 0)", 0).is("goes(3)", 3).is("gap(9)", 10).is("point(0, -1, 1)", 1).is("spread(1)", 9);
+    }
+
     private static void goesEdges() {
         run("goes without a pass").refusesAll(NONE, "goes(0)", "goes(-1)", "goes(most)");
         figures("goes", "0,0,0:0;50,0,0:0;90,0,0:0", "90,1,0:0;0,2,0:0;50,3,0:0").is("pass(0, 1, 5)", 9).is("goes(0)", 1)
@@ -270,6 +279,23 @@ public final class PassEdgesTest {
         // 40 a tick: the one passes the place of the other in the midst of a tick that is not the first.
         led("in a later tick", 3, "0,0,0:0;-60,9,0:0", "0,0,0:0;60,9,0:0").is("clash(0, 1)", 1).is("gap(9)", 10)
                 .is("clash(0, 1)", 0).is("delay(1, 2)", 0).is("clash(0, 1)", 0).is("gap(10)", 9).is("clash(0, 1)", 1);
+    }
+
+    /** They are nearest just as one of them comes to its end, or sets out: the way of the one to the other bends there. */
+    private static void clashAsOneSetsOutOrEnds() {
+        for (int late = 1; late <= 5; late += 2) {
+            int ticks = 2 * late;
+            // Point 0 comes to 40, 0, as point 1, which is late, is half way, at 49, 0.
+            led("as point 0 ends, " + late, ticks, "0,0,0:0;49,-60,0:0", "40,0,0:0;49,60,0:0").is("delay(1, " + late + ")", 0)
+                    .is("clash(0, 1)", 1).is("clash(1, 0)", 1).is("gap(9)", 10).is("clash(0, 1)", 0).is("clash(1, 0)", 0);
+            led("as point 1 ends, " + late, ticks, "49,-60,0:0;0,0,0:0", "49,60,0:0;40,0,0:0").is("delay(0, " + late + ")", 0)
+                    .is("clash(0, 1)", 1).is("gap(9)", 10).is("clash(0, 1)", 0);
+            // Point 0, which is late, leaves 0, 0, as point 1 is half way, at -9, 0.
+            led("as point 0 sets out, " + late, ticks, "0,0,0:0;-9,-60,0:0", "40,0,0:0;-9,60,0:0").is("delay(0, " + late + ")", 0)
+                    .is("clash(0, 1)", 1).is("clash(1, 0)", 1).is("gap(9)", 10).is("clash(0, 1)", 0).is("clash(1, 0)", 0);
+            led("as point 1 sets out, " + late, ticks, "-9,-60,0:0;0,0,0:0", "-9,60,0:0;40,0,0:0").is("delay(1, " + late + ")", 0)
+                    .is("clash(0, 1)", 1).is("gap(9)", 10).is("clash(0, 1)", 0);
+        }
     }
 
     private static void clashGaps() {
@@ -407,9 +433,13 @@ public final class PassEdgesTest {
 
     /** What was found out for a pass of more points is not held against one of fewer. */
     private static void partOfFewerThen() {
-        String near = "0,0,0:0;50,0,0:0;100,0,0:0;105,0,0:0;150,0,0:0;155,0,0:0;100,50,0:0;105,50,0:0";
-        figures("part of fewer then", near, "0,0,0:0;50,0,0:0", "0,0,0:0;50,0,0:0;100,0,0:0;9,50,0:0").is("pass(0, 0, 5)", 0)
-                .refuses("part()", STATE).is("pass(1, 1, 5)", 0).is("delay(1, 5)", 0).is("part()", 0).is("delay(1, 0)", 0)
-                .is("pass(2, 2, 5)", 0).is("part()", 0);
+        String one = "5,5,5:0";
+        StringBuilder apart = new StringBuilder("-180,0,0:0");
+        for (int many = 1; many <= 7; many++) {
+            figures("part of " + many + " behind part of eight", one + (";" + one).repeat(7), apart.toString())
+                    .is("pass(0, 0, 5)", 0).refuses("part()", STATE).is("pass(1, 1, 5)", 0).is("delay(0, 5)", 0).is("part()", 0)
+                    .is("delay(0, 0)", 0);
+            apart.append(';').append(many * 40 - 180).append(",0,0:0");
+        }
     }
 }
