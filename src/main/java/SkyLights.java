@@ -815,14 +815,12 @@ public final class SkyLights {
 
         /** How far apart on an axis, times ticks (so that it is whole), each at a time of its own. */
         private int apart(int a, int b, int axis, int timeA, int timeB) {
+            int goneA = Math.max(0, Math.min(ticks, timeA));
+            int goneB = Math.max(0, Math.min(ticks, timeB));
             int starts = cells.at(a * NUMBERS + axis) - cells.at(b * NUMBERS + axis);
-            int stepA = cells.at(a * NUMBERS + STEP + axis) * under(timeA);
-            int stepB = cells.at(b * NUMBERS + STEP + axis) * under(timeB);
+            int stepA = cells.at(a * NUMBERS + STEP + axis) * goneA;
+            int stepB = cells.at(b * NUMBERS + STEP + axis) * goneB;
             return starts * ticks + stepA - stepB;
-        }
-
-        private int under(int time) {
-            return Math.max(0, Math.min(ticks, time));
         }
     }
 
